@@ -1,0 +1,64 @@
+/** Promise 1, and the face of the class. */
+public final class NewObjectTest {
+    private static final String FIRST_SCRIPT = "loft; trough 100; trough 200; trough 50; load 0 50 760; "
+            + "load 1 200 780; fan 0 3; fan 1 4; monsoon 1; probe 0 top over 10; probe 1 bottom under 5; "
+            + "hours 2; reverse 0; hours 1;";
+
+    public static void main(String[] args) {
+        isAsByItsScript();
+        isEmptyOtherwise();
+        hasOnlyTheFace();
+        Check.end();
+    }
+
+    private static void isAsByItsScript() {
+        WitheringLoft made = new WitheringLoft();
+        Check.same("a new loft", Check.view(made), Check.view(Check.after(FIRST_SCRIPT)));
+        Check.same("the report of a new loft", Check.report(made), "3d640/664 4u636/708 0u");
+        Check.same("setTarget(664, 24) of a new loft", made.setTarget(664, 24), 1);
+        Check.same("passHours(21)", made.passHours(21), 24);
+        Check.same("isMonsoon()", made.isMonsoon(), true);
+    }
+
+    private static void isEmptyOtherwise() {
+        WitheringLoft made = new WitheringLoft();
+        Check.throwsArgument("truncateInput(1)", () -> made.truncateInput(1));
+        Check.same("reportByte(0)", made.reportByte(0), -1);
+        Check.throwsExactly("restoreSnapshot()", java.util.NoSuchElementException.class, made::restoreSnapshot);
+        Check.same("undoCount()", made.undoCount(), 0);
+        Check.same("undo()", made.undo(), -1);
+        Check.same("scriptErrorKind()", made.scriptErrorKind(), 0);
+        Check.same("scriptErrorOffset()", made.scriptErrorOffset(), -1);
+    }
+
+    private static void hasOnlyTheFace() {
+        Class<WitheringLoft> face = WitheringLoft.class;
+        int methods = 0;
+        for (java.lang.reflect.Method method : face.getDeclaredMethods()) {
+            if (java.lang.reflect.Modifier.isPublic(method.getModifiers())) {
+                methods++;
+            } else if (!method.isSynthetic()) {
+                boolean hidden = java.lang.reflect.Modifier.isPrivate(method.getModifiers());
+                Check.same("whether " + method.getName() + " is private", hidden, true);
+            }
+        }
+        Check.same("the number of public methods", methods, 64);
+        int constants = 0;
+        for (java.lang.reflect.Field field : face.getDeclaredFields()) {
+            if (java.lang.reflect.Modifier.isPublic(field.getModifiers())) {
+                constants++;
+            } else {
+                boolean hidden = java.lang.reflect.Modifier.isPrivate(field.getModifiers());
+                Check.same("whether " + field.getName() + " is private", hidden, true);
+            }
+        }
+        Check.same("the number of public constants", constants, 7);
+        Check.same("NONE", WitheringLoft.NONE, -1);
+        Check.same("BOTTOM", WitheringLoft.BOTTOM, 0);
+        Check.same("TOP", WitheringLoft.TOP, 1);
+        Check.same("ALLOWED", WitheringLoft.ALLOWED, 0);
+        Check.same("NO_LEAF", WitheringLoft.NO_LEAF, 1);
+        Check.same("TOO_DRY", WitheringLoft.TOO_DRY, 2);
+        Check.same("TOO_MOIST", WitheringLoft.TOO_MOIST, 3);
+    }
+}
