@@ -119,6 +119,9 @@ public final class AccountsTest {
         Check.same("writeTroughs() of the longest report", full.writeTroughs(), 87);
         Check.same("the last byte", full.reportByte(86), '!');
         Check.same("the byte behind it", full.reportByte(87), -1);
+        WitheringLoft digits = Check.after("loft;repeat 4(trough 10;);load 0 1 799;load 1 1 609;load 2 1 690;"
+                + "load 3 1 698;");
+        Check.same("the report", Check.report(digits), "0u799/799 0u609/609 0u690/690 0u698/698");
     }
 
     private static void promise65ReportByte() {

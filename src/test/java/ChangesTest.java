@@ -348,6 +348,11 @@ public final class ChangesTest {
         loft.setFan(0, 3);
         loft.passHours(2);
         Check.same("warmth(0), not below 0", loft.warmth(0), 0);
+        loft.setFan(0, 0);
+        loft.passHours(5);
+        loft.setFan(0, 1);
+        loft.passHours(1);
+        Check.same("warmth(0) after 5 hours and one at the speed 1", loft.warmth(0), 4);
     }
 
     private static void promise19ProbeErrors() {

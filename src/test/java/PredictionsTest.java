@@ -56,6 +56,9 @@ public final class PredictionsTest {
         Check.same("hoursToReady(2)", loft.hoursToReady(2), -1);
         loft.setTarget(664, 24);
         Check.same("hoursToReady(0), now", loft.hoursToReady(0), 0);
+        // 1*40*60/(100+50) = 16 in the hour before the monsoon, then 2 from the bottom and 1 from the top
+        WitheringLoft edge = Check.after("loft;trough 100;monsoon 1;hours 23;load 0 50 620;fan 0 1;");
+        Check.same("hoursToReady(0), the top at 600 in the monsoon", edge.hoursToReady(0), 13);
         // 1*5*60/(100+50) = 2 from the bottom and 1 from the top
         WitheringLoft slow = Check.after("loft;trough 100;load 0 50 800;humidity 95;fan 0 1;target 500 50;");
         Check.same("hoursToReady(0), the top at 550 after 250 hours", slow.hoursToReady(0), -1);

@@ -3,6 +3,7 @@ public final class ScriptTest {
     public static void main(String[] args) {
         replacesEverything();
         changesNothingWithAnError();
+        beginsAsAtFirstBehindEveryScript();
         executesEachCommand();
         separatesTokens();
         repeats();
@@ -80,6 +81,41 @@ public final class ScriptTest {
         Check.same("undoCount()", loft.undoCount(), 1);
     }
 
+    /** What an earlier script did, with an error or without, leaves no trace in a later one. */
+    private static void beginsAsAtFirstBehindEveryScript() {
+        String[] earlier = {
+            "loft;repeat 8(trough 500;);load 0 400 600;load 7 3 600;load 6 9 650;reverse 7;fan 7 2;fan 1 5;"
+                    + "discharge 7;discard 6;load 5 20 900;fan 5 5;heat 5;humidity 20;monsoon 1;monsoon 2;monsoon 83;"
+                    + "target 600 5;repeat 6(probe 0 top over 50;);hours 30;",
+            "loft;repeat 20(repeat 10(heat 5;););",
+            "loft;trough 20;load 0 20 700;hours 200;repeat 20(heat 1;repeat 9(heat 2;);hours 1;repeat",
+            "loft;repeat 2(repeat 2(heat 9;););",
+        };
+        String[] later = {
+            "loft;",
+            "loft;trough 100;",
+            "loft;repeat 1(heat 1;);",
+            "loft;repeat 8(trough 100;);load 0 50 700;load 1 20 600;probe 0 top over 3;monsoon 60;hours 5;",
+            "loft;trough 10;load 0 1 650;repeat 2(repeat 3(turn 0;hours 1;););discard 0;repeat 1(",
+        };
+        for (String first : earlier) {
+            for (String second : later) {
+                WitheringLoft fresh = new WitheringLoft();
+                WitheringLoft used = new WitheringLoft();
+                Check.run(used, first);
+                int due = Check.run(fresh, second);
+                String what = "\"" + second + "\" behind \"" + first + "\"";
+                Check.same(what, Check.run(used, second), due);
+                Check.same("the error kind of " + what, used.scriptErrorKind(), fresh.scriptErrorKind());
+                Check.same("the error offset of " + what, used.scriptErrorOffset(), fresh.scriptErrorOffset());
+                if (due != -1) {
+                    Check.same("the loft of " + what, Check.view(used), Check.view(fresh));
+                    Check.same("meanMoisture() of " + what, used.meanMoisture(), fresh.meanMoisture());
+                }
+            }
+        }
+    }
+
     private static void executesEachCommand() {
         WitheringLoft loft = Check.after("loft;trough 100;trough 60;load 0 40 700;load 1 30 600;fan 0 2;fan 1 1;"
                 + "reverse 0;heat 1;humidity 50;monsoon 3;monsoon 83;target 600 10;probe 0 top over 7;"
@@ -118,6 +154,11 @@ public final class ScriptTest {
         succeeds("loft;trough 10;probe 0top over5;probe 0bottom under0;", 1);
         fails("loft;trough 10;probe 0 bottomunder 0;", 1, 23);
         fails("loft;tr ough 10;", 1, 5);
+        fails("loft;heatz 1;", 1, 5);
+        fails("loft;heata 1;", 1, 5);
+        fails("loft;heat z;", 1, 10);
+        fails("loft;heat{ 1;", 1, 9);
+        fails("loft;heat` 1;", 1, 9);
         fails("lo ft;", 1, 0);
         fails("loft;troughs 10;", 1, 5);
         fails("loft;trough 1 0;", 2, 12);
