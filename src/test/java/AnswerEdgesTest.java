@@ -1,8 +1,5 @@
 /** Promises 32 to 51 and 57 to 65: the boundary cases of what troughs, probes, accounts and the report tell. */
 public final class AnswerEdgesTest {
-    /** Trough 0 has leaf of 640/664, trough 1 of 636/708, trough 2 is empty; the hour is 3. */
-    private static final String FIRST = "loft;trough 100;trough 200;trough 50;load 0 50 760;load 1 200 780;fan 0 3;"
-            + "fan 1 4;monsoon 1;probe 0 top over 10;probe 1 bottom under 5;hours 2;reverse 0;hours 1;";
     private static final String NO_TROUGH = "loft;";
     private static final String EIGHT = "loft;repeat 8(trough 100;);load 0 9 600;load 7 10 600;";
     private static final String SIX_PROBES = "loft;trough 100;repeat 6(probe 0 top over 1;);";
@@ -29,6 +26,7 @@ public final class AnswerEdgesTest {
         promise51IsNoneWithoutLeafOrProbe();
         promise57To60Are0AtFirst();
         promise57To60GoOnCounting();
+        promise57To60CountTheMostThat512CallsDo();
         promise61Is0IfAllTroughsAreEmpty();
         promise62Is0IfAllTroughsAreEmpty();
         promise63IsAlways0();
@@ -60,11 +58,11 @@ public final class AnswerEdgesTest {
     }
 
     private static void troughExists(String name, Edge.NumberCall call) {
-        Edge.exist(FIRST, name, 3, call);
+        Edge.exist(Edge.FIRST, name, 3, call);
         Edge.exist(NO_TROUGH, name, 0, call);
         Edge.exist(EIGHT, name, 8, call);
         // A trough whose addition was undone exists no more.
-        WitheringLoft loft = Check.after(FIRST);
+        WitheringLoft loft = Check.after(Edge.FIRST);
         loft.addTrough(10);
         loft.undo();
         Check.throwsIndex(name + " of number 3, undone", () -> call.on(loft, 3));
@@ -158,10 +156,10 @@ public final class AnswerEdgesTest {
     }
 
     private static void promise39LayerIsBottomOrTop() {
-        Edge.takes(FIRST, "moisture of a layer", 0, 1, (loft, layer) -> loft.moisture(0, layer));
-        Edge.takes(FIRST, "moisture of a layer without leaf", 0, 1, (loft, layer) -> loft.moisture(2, layer));
-        Edge.refusesIndex(FIRST, "moisture(3, 2)", loft -> loft.moisture(3, 2));
-        Edge.refusesIndex(FIRST, "moisture(-1, -1)", loft -> loft.moisture(-1, -1));
+        Edge.takes(Edge.FIRST, "moisture of a layer", 0, 1, (loft, layer) -> loft.moisture(0, layer));
+        Edge.takes(Edge.FIRST, "moisture of a layer without leaf", 0, 1, (loft, layer) -> loft.moisture(2, layer));
+        Edge.refusesIndex(Edge.FIRST, "moisture(3, 2)", loft -> loft.moisture(3, 2));
+        Edge.refusesIndex(Edge.FIRST, "moisture(-1, -1)", loft -> loft.moisture(-1, -1));
         Check.same("moisture(0, 0) of the driest leaf",
                 Check.after("loft;trough 10;load 0 10 600;fan 0 5;hours 99;").moisture(0, 0), 300);
         Check.same("moisture(0, 1) of the moistest leaf",
@@ -209,10 +207,10 @@ public final class AnswerEdgesTest {
     }
 
     private static void probeExists(String name, Edge.NumberCall call) {
-        Edge.exist(FIRST, name, 2, call);
+        Edge.exist(Edge.FIRST, name, 2, call);
         Edge.exist(NO_TROUGH, name, 0, call);
         Edge.exist(SIX_PROBES, name, 6, call);
-        WitheringLoft loft = Check.after(FIRST);
+        WitheringLoft loft = Check.after(Edge.FIRST);
         loft.addProbe(0, 0, 0);
         loft.undo();
         Check.throwsIndex(name + " of number 2, undone", () -> call.on(loft, 2));
@@ -225,7 +223,7 @@ public final class AnswerEdgesTest {
     }
 
     private static void promise48TheReadingIsNoneIfTheTroughIsEmpty() {
-        WitheringLoft loft = Check.after(FIRST);
+        WitheringLoft loft = Check.after(Edge.FIRST);
         loft.discard(0);
         Check.same("reading(0), its trough discarded", loft.reading(0), -1);
         Check.same("reading(1), another trough", loft.reading(1), 631);
@@ -304,6 +302,17 @@ public final class AnswerEdgesTest {
         Check.same("violations()", dry.violations(), 0);
     }
 
+    private static void promise57To60CountTheMostThat512CallsDo() {
+        WitheringLoft loft = Check.after("loft;trough 500;repeat 20(repeat 4(load 0 500 600;discharge 0;););");
+        for (int i = 0; i < 240; i++) {
+            loft.load(0, 500, 600);
+            loft.discharge(0);
+        }
+        Check.same("dischargedKilograms()", loft.dischargedKilograms(), 160000);
+        Check.same("totalWorth()", loft.totalWorth(), 160000);
+        Check.same("violations()", loft.violations(), 0);
+    }
+
     private static void promise61Is0IfAllTroughsAreEmpty() {
         Check.same("meanMoisture() without troughs", Check.after(NO_TROUGH).meanMoisture(), 0.0);
         Check.same("meanMoisture() of empty troughs", Check.after("loft;repeat 8(trough 10;);").meanMoisture(), 0.0);
@@ -332,7 +341,8 @@ public final class AnswerEdgesTest {
 
     private static void promise63IsAlways0() {
         String[] scripts = {
-            NO_TROUGH, FIRST, EIGHT, FIRST + "hours 200;", FIRST + "turn 0;turn 1;hours 5;discard 0;discard 1;",
+            NO_TROUGH, Edge.FIRST, EIGHT, Edge.FIRST + "hours 200;",
+            Edge.FIRST + "turn 0;turn 1;hours 5;discard 0;discard 1;",
             "loft;trough 500;repeat 20(load 0 500 600;discharge 0;load 0 500 900;fan 0 5;hours 9;discard 0;);",
             "loft;trough 10;load 0 10 900;hours 200;fan 0 5;hours 200;",
             "loft;trough 500;load 0 499 600;fan 0 1;hours 1;turn 0;discharge 0;load 0 1 601;hours 3;",
@@ -390,7 +400,7 @@ public final class AnswerEdgesTest {
     }
 
     private static void promise64ReplacesThePreviousReport() {
-        WitheringLoft loft = Check.after(FIRST);
+        WitheringLoft loft = Check.after(Edge.FIRST);
         Check.same("writeTroughs()", loft.writeTroughs(), 22);
         loft.discard(0);
         Check.same("reportByte(2) of the report before", loft.reportByte(2), '6');

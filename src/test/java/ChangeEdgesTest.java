@@ -1,8 +1,5 @@
 /** Promises 5 to 19: the boundary cases of the changes, a test for each sentence that names some. */
 public final class ChangeEdgesTest {
-    /** Trough 0 has leaf of 640/664, trough 1 of 636/708, trough 2 is empty; the hour is 3. */
-    private static final String FIRST = "loft;trough 100;trough 200;trough 50;load 0 50 760;load 1 200 780;fan 0 3;"
-            + "fan 1 4;monsoon 1;probe 0 top over 10;probe 1 bottom under 5;hours 2;reverse 0;hours 1;";
     private static final String FULL = "loft;repeat 8(trough 100;);repeat 6(probe 0 top over 1;);monsoon 1;"
             + "monsoon 20;monsoon 40;load 7 50 700;hours 30;";
     private static final String NO_TROUGH = "loft;";
@@ -48,10 +45,10 @@ public final class ChangeEdgesTest {
     }
 
     private static void promise05CapacityIs10To500() {
-        Edge.takes(FIRST, "addTrough", 10, 500, WitheringLoft::addTrough);
+        Edge.takes(Edge.FIRST, "addTrough", 10, 500, WitheringLoft::addTrough);
         Edge.takes(NO_TROUGH, "addTrough", 10, 500, WitheringLoft::addTrough);
-        Edge.refusesArgument(FIRST, "addTrough(0)", loft -> loft.addTrough(0));
-        Edge.refusesArgument(FIRST, "addTrough(-10)", loft -> loft.addTrough(-10));
+        Edge.refusesArgument(Edge.FIRST, "addTrough(0)", loft -> loft.addTrough(0));
+        Edge.refusesArgument(Edge.FIRST, "addTrough(-10)", loft -> loft.addTrough(-10));
     }
 
     private static void promise05IsRefusedIfThereAre8Troughs() {
@@ -76,12 +73,12 @@ public final class ChangeEdgesTest {
     private static void promise06TroughExists() {
         Edge.exist("loft;repeat 3(trough 10;);", "load", 3, (loft, trough) -> loft.load(trough, 1, 700));
         Edge.exist(NO_TROUGH, "load", 0, (loft, trough) -> loft.load(trough, 1, 700));
-        Edge.refusesIndex(FIRST, "load(3, 0, 700)", loft -> loft.load(3, 0, 700));
-        Edge.refusesIndex(FIRST, "load(-1, 1, 599)", loft -> loft.load(-1, 1, 599));
+        Edge.refusesIndex(Edge.FIRST, "load(3, 0, 700)", loft -> loft.load(3, 0, 700));
+        Edge.refusesIndex(Edge.FIRST, "load(-1, 1, 599)", loft -> loft.load(-1, 1, 599));
     }
 
     private static void promise06KilogramsAre1ToTheCapacity() {
-        Edge.takes(FIRST, "load into 50 kilograms", 1, 50, (loft, kilograms) -> loft.load(2, kilograms, 700));
+        Edge.takes(Edge.FIRST, "load into 50 kilograms", 1, 50, (loft, kilograms) -> loft.load(2, kilograms, 700));
         Edge.takes("loft;trough 10;trough 500;", "load into 10 kilograms", 1, 10,
                 (loft, kilograms) -> loft.load(0, kilograms, 700));
         Edge.takes("loft;trough 10;trough 500;", "load into 500 kilograms", 1, 500,
@@ -89,19 +86,19 @@ public final class ChangeEdgesTest {
     }
 
     private static void promise06MoistureIs600To900() {
-        Edge.takes(FIRST, "load at a moisture", 600, 900, (loft, moisture) -> loft.load(2, 50, moisture));
+        Edge.takes(Edge.FIRST, "load at a moisture", 600, 900, (loft, moisture) -> loft.load(2, 50, moisture));
     }
 
     private static void promise06IsRefusedIfTheTroughHasLeaf() {
-        Edge.refusesState(FIRST, "load(0, 1, 600)", loft -> loft.load(0, 1, 600));
-        Edge.refusesState(FIRST, "load(1, 200, 900)", loft -> loft.load(1, 200, 900));
+        Edge.refusesState(Edge.FIRST, "load(0, 1, 600)", loft -> loft.load(0, 1, 600));
+        Edge.refusesState(Edge.FIRST, "load(1, 200, 900)", loft -> loft.load(1, 200, 900));
         Edge.refusesState("loft;trough 10;load 0 1 600;", "load(0, 9, 600), which has room",
                 loft -> loft.load(0, 9, 600));
-        Edge.refusesArgument(FIRST, "load(0, 101, 600)", loft -> loft.load(0, 101, 600));
-        Edge.refusesArgument(FIRST, "load(0, 0, 600)", loft -> loft.load(0, 0, 600));
-        Edge.refusesArgument(FIRST, "load(0, 1, 599)", loft -> loft.load(0, 1, 599));
-        Edge.accepts(FIRST + "discard 0;", "load(0, 100, 600)", loft -> loft.load(0, 100, 600));
-        Edge.accepts(FIRST + "target 664 24;discharge 0;", "load(0, 100, 600)", loft -> loft.load(0, 100, 600));
+        Edge.refusesArgument(Edge.FIRST, "load(0, 101, 600)", loft -> loft.load(0, 101, 600));
+        Edge.refusesArgument(Edge.FIRST, "load(0, 0, 600)", loft -> loft.load(0, 0, 600));
+        Edge.refusesArgument(Edge.FIRST, "load(0, 1, 599)", loft -> loft.load(0, 1, 599));
+        Edge.accepts(Edge.FIRST + "discard 0;", "load(0, 100, 600)", loft -> loft.load(0, 100, 600));
+        Edge.accepts(Edge.FIRST + "target 664 24;discharge 0;", "load(0, 100, 600)", loft -> loft.load(0, 100, 600));
     }
 
     private static void promise06BeginsWithoutWarmthAndDamage() {
@@ -123,18 +120,18 @@ public final class ChangeEdgesTest {
     }
 
     private static void promise07TroughExistsAndSpeedIs0To5() {
-        Edge.exist(FIRST, "setFan", 3, (loft, trough) -> loft.setFan(trough, 1));
+        Edge.exist(Edge.FIRST, "setFan", 3, (loft, trough) -> loft.setFan(trough, 1));
         Edge.exist(NO_TROUGH, "setFan", 0, (loft, trough) -> loft.setFan(trough, 1));
-        Edge.takes(FIRST, "setFan", 0, 5, (loft, speed) -> loft.setFan(0, speed));
-        Edge.refusesIndex(FIRST, "setFan(3, 6)", loft -> loft.setFan(3, 6));
-        Edge.refusesIndex(FIRST, "setFan(-1, -1)", loft -> loft.setFan(-1, -1));
+        Edge.takes(Edge.FIRST, "setFan", 0, 5, (loft, speed) -> loft.setFan(0, speed));
+        Edge.refusesIndex(Edge.FIRST, "setFan(3, 6)", loft -> loft.setFan(3, 6));
+        Edge.refusesIndex(Edge.FIRST, "setFan(-1, -1)", loft -> loft.setFan(-1, -1));
         WitheringLoft loft = new WitheringLoft();
         Check.same("setFan(2, 5) of a fan as at first", loft.setFan(2, 5), 0);
         Check.same("setFan(2, 0)", loft.setFan(2, 0), 5);
     }
 
     private static void promise08TroughExists() {
-        Edge.exist(FIRST, "reverse", 3, (loft, trough) -> loft.reverse(trough) ? 1 : 0);
+        Edge.exist(Edge.FIRST, "reverse", 3, (loft, trough) -> loft.reverse(trough) ? 1 : 0);
         Edge.exist(NO_TROUGH, "reverse", 0, (loft, trough) -> loft.reverse(trough) ? 1 : 0);
     }
 
@@ -146,7 +143,7 @@ public final class ChangeEdgesTest {
     }
 
     private static void promise09LevelIs0To5() {
-        Edge.takes(FIRST, "setHeat", 0, 5, WitheringLoft::setHeat);
+        Edge.takes(Edge.FIRST, "setHeat", 0, 5, WitheringLoft::setHeat);
         WitheringLoft loft = Check.after(NO_TROUGH);
         Check.same("setHeat(5) of a heating as at first", loft.setHeat(5), 0);
         Check.same("setHeat(5)", loft.setHeat(5), 5);
@@ -154,7 +151,7 @@ public final class ChangeEdgesTest {
     }
 
     private static void promise10PercentIs20To95() {
-        Edge.takes(FIRST, "setHumidity", 20, 95, WitheringLoft::setHumidity);
+        Edge.takes(Edge.FIRST, "setHumidity", 20, 95, WitheringLoft::setHumidity);
         WitheringLoft loft = Check.after("loft;monsoon 0;");
         Check.same("setHumidity(20) in a monsoon, as at first", loft.setHumidity(20), 60);
         Check.same("setHumidity(95)", loft.setHumidity(95), 20);
@@ -195,11 +192,11 @@ public final class ChangeEdgesTest {
     }
 
     private static void promise12TargetIs500To700AndToleranceIs5To50() {
-        Edge.takes(FIRST, "setTarget at a target", 500, 700, (loft, target) -> loft.setTarget(target, 20));
-        Edge.takes(FIRST, "setTarget at a tolerance", 5, 50, (loft, tolerance) -> loft.setTarget(580, tolerance));
-        Edge.refusesArgument(FIRST, "setTarget(499, 4)", loft -> loft.setTarget(499, 4));
-        Edge.accepts(FIRST, "setTarget(500, 5)", loft -> loft.setTarget(500, 5));
-        Edge.accepts(FIRST, "setTarget(700, 50)", loft -> loft.setTarget(700, 50));
+        Edge.takes(Edge.FIRST, "setTarget at a target", 500, 700, (loft, target) -> loft.setTarget(target, 20));
+        Edge.takes(Edge.FIRST, "setTarget at a tolerance", 5, 50, (loft, tolerance) -> loft.setTarget(580, tolerance));
+        Edge.refusesArgument(Edge.FIRST, "setTarget(499, 4)", loft -> loft.setTarget(499, 4));
+        Edge.accepts(Edge.FIRST, "setTarget(500, 5)", loft -> loft.setTarget(500, 5));
+        Edge.accepts(Edge.FIRST, "setTarget(700, 50)", loft -> loft.setTarget(700, 50));
     }
 
     private static void promise12CountsWhatIsReadyAfterwards() {
@@ -218,8 +215,8 @@ public final class ChangeEdgesTest {
     private static void promise13TroughExistsAndHasLeaf() {
         Edge.exist("loft;trough 10;trough 10;load 0 1 600;load 1 1 600;", "turnLeaf", 2, WitheringLoft::turnLeaf);
         Edge.exist(NO_TROUGH, "turnLeaf", 0, WitheringLoft::turnLeaf);
-        Edge.refusesState(FIRST, "turnLeaf(2)", loft -> loft.turnLeaf(2));
-        Edge.refusesState(FIRST + "discard 0;", "turnLeaf(0)", loft -> loft.turnLeaf(0));
+        Edge.refusesState(Edge.FIRST, "turnLeaf(2)", loft -> loft.turnLeaf(2));
+        Edge.refusesState(Edge.FIRST + "discard 0;", "turnLeaf(0)", loft -> loft.turnLeaf(0));
     }
 
     private static void promise13TheTopLayerGetsTheRest() {
@@ -252,21 +249,24 @@ public final class ChangeEdgesTest {
     }
 
     private static void promise14IsRefusedForEachReason() {
-        Edge.refusesState(FIRST, "discharge(2) without leaf", loft -> loft.discharge(2));
-        Edge.refusesState(FIRST + "target 665 24;", "discharge(0), the bottom too dry by 1",
+        Edge.refusesState(Edge.FIRST, "discharge(2) without leaf", loft -> loft.discharge(2));
+        Edge.refusesState(Edge.FIRST + "target 665 24;", "discharge(0), the bottom too dry by 1",
                 loft -> loft.discharge(0));
-        Edge.refusesState(FIRST + "target 639 24;", "discharge(0), the top too moist by 1",
+        Edge.refusesState(Edge.FIRST + "target 639 24;", "discharge(0), the top too moist by 1",
                 loft -> loft.discharge(0));
-        Edge.refusesState(FIRST + "target 652 11;", "discharge(0), too dry and too moist",
+        Edge.refusesState(Edge.FIRST + "target 652 11;", "discharge(0), too dry and too moist",
                 loft -> loft.discharge(0));
-        Edge.refusesState(FIRST + "reverse 0;hours 2;target 569 5;", "discharge(0), the bottom too moist",
+        Edge.refusesState(Edge.FIRST + "reverse 0;hours 2;target 569 5;", "discharge(0), the bottom too moist",
                 loft -> loft.discharge(0));
     }
 
     private static void promise14TakesLeafAtBothEndsOfTheTolerance() {
-        Edge.accepts(FIRST + "target 664 24;", "discharge(0), the bottom at the lower end", loft -> loft.discharge(0));
-        Edge.accepts(FIRST + "target 640 24;", "discharge(0), the top at the upper end", loft -> loft.discharge(0));
-        Edge.accepts(FIRST + "target 652 12;", "discharge(0), a layer at each end", loft -> loft.discharge(0));
+        Check.same("discharge(0), the bottom at the lower end",
+                Check.after(Edge.FIRST + "target 664 24;").discharge(0), 38);
+        Check.same("discharge(0), the top at the upper end",
+                Check.after(Edge.FIRST + "target 640 24;").discharge(0), 38);
+        Check.same("discharge(0), a layer at each end",
+                Check.after(Edge.FIRST + "target 652 12;").discharge(0), 38);
     }
 
     private static void promise14RoundsTheWorthDown() {
@@ -288,38 +288,38 @@ public final class ChangeEdgesTest {
     }
 
     private static void promise14TheTroughIsEmptyThen() {
-        WitheringLoft loft = Check.after(FIRST + "target 664 24;");
+        WitheringLoft loft = Check.after(Edge.FIRST + "target 664 24;");
         loft.discharge(0);
         Check.same("kilograms(0)", loft.kilograms(0), 0);
         Check.same("moisture(0, 1)", loft.moisture(0, 1), -1);
         Check.same("capacity(0), which stays", loft.capacity(0), 100);
         Check.same("speed(0), which stays", loft.speed(0), 3);
         Check.same("isUpwards(0), which stays", loft.isUpwards(0), false);
-        Edge.refusesState(FIRST + "target 664 24;discharge 0;", "discharge(0) again", empty -> empty.discharge(0));
+        Edge.refusesState(Edge.FIRST + "target 664 24;discharge 0;", "discharge(0) again", empty -> empty.discharge(0));
     }
 
     private static void promise15TroughExistsAndHasLeaf() {
         Edge.exist("loft;trough 10;trough 10;load 0 1 600;load 1 1 600;", "discard", 2, WitheringLoft::discard);
         Edge.exist(NO_TROUGH, "discard", 0, WitheringLoft::discard);
-        Edge.refusesState(FIRST, "discard(2)", loft -> loft.discard(2));
-        Edge.refusesState(FIRST + "discard 0;", "discard(0) again", loft -> loft.discard(0));
+        Edge.refusesState(Edge.FIRST, "discard(2)", loft -> loft.discard(2));
+        Edge.refusesState(Edge.FIRST + "discard 0;", "discard(0) again", loft -> loft.discard(0));
     }
 
     private static void promise15DiscardsAtAnyTime() {
-        Check.same("discard(0), too moist", Check.after(FIRST).discard(0), 50);
-        Check.same("discard(0), ready", Check.after(FIRST + "target 664 24;").discard(0), 50);
-        Check.same("discard(0), too dry", Check.after(FIRST + "hours 30;").discard(0), 50);
+        Check.same("discard(0), too moist", Check.after(Edge.FIRST).discard(0), 50);
+        Check.same("discard(0), ready", Check.after(Edge.FIRST + "target 664 24;").discard(0), 50);
+        Check.same("discard(0), too dry", Check.after(Edge.FIRST + "hours 30;").discard(0), 50);
         Check.same("discard(0), the largest", Check.after("loft;trough 500;load 0 500 600;").discard(0), 500);
         Check.same("discard(0), the smallest", Check.after("loft;trough 500;load 0 1 600;").discard(0), 1);
     }
 
     private static void promise16TroughLayerAndErrorAreInRange() {
-        Edge.exist(FIRST, "addProbe", 3, (loft, trough) -> loft.addProbe(trough, 0, 0));
+        Edge.exist(Edge.FIRST, "addProbe", 3, (loft, trough) -> loft.addProbe(trough, 0, 0));
         Edge.exist(NO_TROUGH, "addProbe", 0, (loft, trough) -> loft.addProbe(trough, 0, 0));
-        Edge.takes(FIRST, "addProbe in a layer", 0, 1, (loft, layer) -> loft.addProbe(2, layer, 0));
-        Edge.takes(FIRST, "addProbe with an error", -50, 50, (loft, error) -> loft.addProbe(0, 1, error));
-        Edge.refusesIndex(FIRST, "addProbe(3, 2, 0)", loft -> loft.addProbe(3, 2, 0));
-        Edge.refusesIndex(FIRST, "addProbe(-1, 0, 51)", loft -> loft.addProbe(-1, 0, 51));
+        Edge.takes(Edge.FIRST, "addProbe in a layer", 0, 1, (loft, layer) -> loft.addProbe(2, layer, 0));
+        Edge.takes(Edge.FIRST, "addProbe with an error", -50, 50, (loft, error) -> loft.addProbe(0, 1, error));
+        Edge.refusesIndex(Edge.FIRST, "addProbe(3, 2, 0)", loft -> loft.addProbe(3, 2, 0));
+        Edge.refusesIndex(Edge.FIRST, "addProbe(-1, 0, 51)", loft -> loft.addProbe(-1, 0, 51));
     }
 
     private static void promise16IsRefusedIfThereAre6Probes() {
@@ -334,25 +334,27 @@ public final class ChangeEdgesTest {
     }
 
     private static void promise17ProbeTroughAndLayerExist() {
-        Edge.exist(FIRST, "moveProbe of a probe", 2, (loft, probe) -> loft.moveProbe(probe, 2, 1));
-        Edge.exist(FIRST, "moveProbe to a trough", 3, (loft, trough) -> loft.moveProbe(0, trough, 0));
+        Edge.exist(Edge.FIRST, "moveProbe of a probe", 2, (loft, probe) -> loft.moveProbe(probe, 2, 1));
+        Edge.exist(Edge.FIRST, "moveProbe to a trough", 3, (loft, trough) -> loft.moveProbe(0, trough, 0));
         Edge.exist(FULL, "moveProbe of a probe", 6, (loft, probe) -> loft.moveProbe(probe, 7, 1));
         Edge.exist("loft;trough 10;", "moveProbe of a probe", 0, (loft, probe) -> loft.moveProbe(probe, 0, 0));
-        Edge.takes(FIRST, "moveProbe to a layer", 0, 1, (loft, layer) -> loft.moveProbe(0, 1, layer));
-        Edge.refusesIndex(FIRST, "moveProbe(2, 0, 2)", loft -> loft.moveProbe(2, 0, 2));
-        Edge.refusesIndex(FIRST, "moveProbe(0, 3, 2)", loft -> loft.moveProbe(0, 3, 2));
-        Edge.refusesIndex(FIRST, "moveProbe(-1, -1, -1)", loft -> loft.moveProbe(-1, -1, -1));
+        Edge.takes(Edge.FIRST, "moveProbe to a layer", 0, 1, (loft, layer) -> loft.moveProbe(0, 1, layer));
+        Edge.refusesIndex(Edge.FIRST, "moveProbe(2, 0, 2)", loft -> loft.moveProbe(2, 0, 2));
+        Edge.refusesIndex(Edge.FIRST, "moveProbe(0, 3, 2)", loft -> loft.moveProbe(0, 3, 2));
+        Edge.refusesIndex(Edge.FIRST, "moveProbe(-1, -1, -1)", loft -> loft.moveProbe(-1, -1, -1));
     }
 
     private static void promise17ToTheSamePlace() {
         WitheringLoft loft = new WitheringLoft();
         Check.same("moveProbe(0, 0, 1), where it is", loft.moveProbe(0, 0, 1), 0);
         Check.same("reading(0), with its error", loft.reading(0), 674);
-        Check.same("undoCount()", loft.undoCount(), 1);
+        Check.same("moveProbe(1, 1, 1), to the other layer", loft.moveProbe(1, 1, 1), 1);
+        Check.same("reading(1), with its error", loft.reading(1), 703);
+        Check.same("undoCount()", loft.undoCount(), 2);
     }
 
     private static void promise18ProbeExistsAndItsErrorIs0Afterwards() {
-        Edge.exist(FIRST, "calibrate", 2, WitheringLoft::calibrate);
+        Edge.exist(Edge.FIRST, "calibrate", 2, WitheringLoft::calibrate);
         Edge.exist("loft;trough 10;", "calibrate", 0, WitheringLoft::calibrate);
         Edge.exist(FULL, "calibrate", 6, WitheringLoft::calibrate);
         WitheringLoft loft = Check.after("loft;trough 10;probe 0 top over 50;probe 0 top under 50;load 0 1 600;");
@@ -364,8 +366,8 @@ public final class ChangeEdgesTest {
     }
 
     private static void promise19HoursAre1To200() {
-        Edge.takes(FIRST, "passHours", 1, 200, WitheringLoft::passHours);
-        Edge.refusesArgument(FIRST, "passHours(-1)", loft -> loft.passHours(-1));
+        Edge.takes(Edge.FIRST, "passHours", 1, 200, WitheringLoft::passHours);
+        Edge.refusesArgument(Edge.FIRST, "passHours(-1)", loft -> loft.passHours(-1));
     }
 
     private static void promise19TheHourIs2000AtMost() {

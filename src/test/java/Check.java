@@ -88,6 +88,22 @@ final class Check {
         return loft;
     }
 
+    /** Runs the script on a new loft: it must fail by this error. */
+    static void fails(String script, int kind, int offset) {
+        WitheringLoft loft = new WitheringLoft();
+        same("the script \"" + script + "\"", run(loft, script), -1);
+        same("the error kind of \"" + script + "\"", loft.scriptErrorKind(), kind);
+        same("the error offset of \"" + script + "\"", loft.scriptErrorOffset(), offset);
+    }
+
+    /** Runs the script on a new loft: it must succeed, and leave so many troughs. */
+    static void succeeds(String script, int troughs) {
+        WitheringLoft loft = new WitheringLoft();
+        same("the script \"" + script + "\"", run(loft, script), troughs);
+        same("the error kind of \"" + script + "\"", loft.scriptErrorKind(), 0);
+        same("the error offset of \"" + script + "\"", loft.scriptErrorOffset(), -1);
+    }
+
     static String report(WitheringLoft loft) {
         int length = loft.writeTroughs();
         StringBuilder text = new StringBuilder();
@@ -99,26 +115,14 @@ final class Check {
 
     /** All that the calls without an effect tell of the loft, but for the script error and the report. */
     static String view(WitheringLoft loft) {
-        StringBuilder text = new StringBuilder();
-        text.append(loft.hour()).append(' ').append(loft.dryness()).append(' ').append(loft.hoursToMonsoon());
+        StringBuilder text = new StringBuilder(Edge.state(loft));
+        text.append("\n").append(loft.readyTroughs()).append(' ').append(loft.violations());
         for (int hour = 0; hour <= 2000; hour += 24) {
             text.append(' ').append(loft.humidityAt(hour));
         }
         for (int i = 0; i < loft.troughCount(); i++) {
-            text.append("\n").append(loft.capacity(i)).append(' ').append(loft.kilograms(i));
-            text.append(' ').append(loft.fill(i)).append(' ').append(loft.speed(i)).append(loft.isUpwards(i));
-            text.append(' ').append(loft.moisture(i, 0)).append(' ').append(loft.moisture(i, 1));
-            text.append(' ').append(loft.warmth(i)).append(' ').append(loft.damage(i));
-            text.append(' ').append(loft.weight(i)).append(' ').append(loft.whyNoDischarge(i));
-            text.append(' ').append(loft.loss(i)).append(' ').append(loft.marks(i));
+            text.append("\n").append(loft.fill(i)).append(' ').append(loft.loss(i)).append(' ').append(loft.marks(i));
         }
-        for (int i = 0; i < loft.probeCount(); i++) {
-            text.append("\n").append(loft.probeTrough(i)).append(' ').append(loft.probeLayer(i));
-            text.append(' ').append(loft.reading(i));
-        }
-        text.append("\n").append(loft.dischargedKilograms()).append(' ').append(loft.discardedKilograms());
-        text.append(' ').append(loft.totalWorth()).append(' ').append(loft.lostWater());
-        text.append(' ').append(loft.readyTroughs()).append(' ').append(loft.violations());
         return text.toString();
     }
 

@@ -3,6 +3,10 @@
  * nothing behind the 512th call of a loft.
  */
 final class Edge {
+    /** A new loft: trough 0 has leaf of 640/664, trough 1 of 636/708, trough 2 is empty; the hour is 3. */
+    static final String FIRST = "loft;trough 100;trough 200;trough 50;load 0 50 760;load 1 200 780;fan 0 3;"
+            + "fan 1 4;monsoon 1;probe 0 top over 10;probe 1 bottom under 5;hours 2;reverse 0;hours 1;";
+
     private static final int MONSOON_HOURS = 168;
 
     interface Call {

@@ -1,8 +1,5 @@
 /** Promises 52 to 56: the boundary cases of the predictions. */
 public final class PredictionEdgesTest {
-    /** Trough 0 has leaf of 640/664 and loses 48 downwards, trough 1 of 636/708, trough 2 is empty. */
-    private static final String FIRST = "loft;trough 100;trough 200;trough 50;load 0 50 760;load 1 200 780;fan 0 3;"
-            + "fan 1 4;monsoon 1;probe 0 top over 10;probe 1 bottom under 5;hours 2;reverse 0;hours 1;";
     private static final String NO_TROUGH = "loft;";
     /** An hour takes 1 from the layer that the air enters, and nothing from the other one. */
     private static final String GENTLE = "loft;trough 10;load 0 10 900;humidity 95;fan 0 1;";
@@ -17,6 +14,7 @@ public final class PredictionEdgesTest {
         promise52MonsoonsComeAndGo();
         promise53Is0IfItIsReadyNow();
         promise53TakesTheSmallestNumber();
+        promise53MonsoonsComeAndGo();
         promise53EndsAfter200Hours();
         promise53IsNoneIfReadinessIsSkipped();
         promise54IsTheFirstHourWithDamage();
@@ -24,6 +22,7 @@ public final class PredictionEdgesTest {
         promise55HoursAre1To100();
         promise55OfSeveralTheSmallest();
         promise55TheNumberOfHoursIsNoReversal();
+        promise55MonsoonsComeAndGo();
         promise56HoursAre0To200();
         promise56TheSmallestSpeed();
         promise56AfterExactlySomeHours();
@@ -31,7 +30,7 @@ public final class PredictionEdgesTest {
     }
 
     private static void troughExists(String name, Edge.NumberCall call) {
-        Edge.exist(FIRST, name, 3, call);
+        Edge.exist(Edge.FIRST, name, 3, call);
         Edge.exist(NO_TROUGH, name, 0, call);
     }
 
@@ -41,13 +40,13 @@ public final class PredictionEdgesTest {
         troughExists("hoursToDamage", WitheringLoft::hoursToDamage);
         troughExists("bestReversal", (loft, trough) -> loft.bestReversal(trough, 1));
         troughExists("slowestSpeed", (loft, trough) -> loft.slowestSpeed(trough, 1));
-        Edge.refusesIndex(FIRST, "moistureAfter(3, 2, 201)", loft -> loft.moistureAfter(3, 2, 201));
-        Edge.refusesIndex(FIRST, "bestReversal(3, 0)", loft -> loft.bestReversal(3, 0));
-        Edge.refusesIndex(FIRST, "slowestSpeed(-1, 201)", loft -> loft.slowestSpeed(-1, 201));
+        Edge.refusesIndex(Edge.FIRST, "moistureAfter(3, 2, 201)", loft -> loft.moistureAfter(3, 2, 201));
+        Edge.refusesIndex(Edge.FIRST, "bestReversal(3, 0)", loft -> loft.bestReversal(3, 0));
+        Edge.refusesIndex(Edge.FIRST, "slowestSpeed(-1, 201)", loft -> loft.slowestSpeed(-1, 201));
     }
 
     private static void predictionsAreNoneOfAnEmptyTrough() {
-        WitheringLoft loft = Check.after(FIRST + "target 600 50;");
+        WitheringLoft loft = Check.after(Edge.FIRST + "target 600 50;");
         Check.same("moistureAfter(2, 0, 0)", loft.moistureAfter(2, 0, 0), -1);
         Check.same("moistureAfter(2, 1, 200)", loft.moistureAfter(2, 1, 200), -1);
         Check.same("hoursToReady(2)", loft.hoursToReady(2), -1);
@@ -59,7 +58,7 @@ public final class PredictionEdgesTest {
     }
 
     private static void predictionsChangeNothing() {
-        WitheringLoft loft = Check.after(FIRST);
+        WitheringLoft loft = Check.after(Edge.FIRST);
         String before = Edge.state(loft);
         loft.moistureAfter(0, 0, 200);
         loft.hoursToReady(0);
@@ -73,16 +72,16 @@ public final class PredictionEdgesTest {
     }
 
     private static void promise52LayerAndHoursAreInRange() {
-        Edge.takes(FIRST, "moistureAfter of a layer", 0, 1, (loft, layer) -> loft.moistureAfter(0, layer, 5));
-        Edge.takes(FIRST, "moistureAfter some hours", 0, 200, (loft, hours) -> loft.moistureAfter(0, 1, hours));
-        Edge.takes(FIRST, "moistureAfter of a layer without leaf", 0, 1,
+        Edge.takes(Edge.FIRST, "moistureAfter of a layer", 0, 1, (loft, layer) -> loft.moistureAfter(0, layer, 5));
+        Edge.takes(Edge.FIRST, "moistureAfter some hours", 0, 200, (loft, hours) -> loft.moistureAfter(0, 1, hours));
+        Edge.takes(Edge.FIRST, "moistureAfter of a layer without leaf", 0, 1,
                 (loft, layer) -> loft.moistureAfter(2, layer, 5));
-        Edge.takes(FIRST, "moistureAfter some hours without leaf", 0, 200,
+        Edge.takes(Edge.FIRST, "moistureAfter some hours without leaf", 0, 200,
                 (loft, hours) -> loft.moistureAfter(2, 1, hours));
     }
 
     private static void promise52After0HoursItIsAsNow() {
-        WitheringLoft loft = Check.after(FIRST);
+        WitheringLoft loft = Check.after(Edge.FIRST);
         Check.same("moistureAfter(0, 0, 0)", loft.moistureAfter(0, 0, 0), 640);
         Check.same("moistureAfter(0, 1, 0)", loft.moistureAfter(0, 1, 0), 664);
         Check.same("moistureAfter(0, 0, 1)", loft.moistureAfter(0, 0, 1), 616);
@@ -117,11 +116,11 @@ public final class PredictionEdgesTest {
     }
 
     private static void promise53Is0IfItIsReadyNow() {
-        Check.same("hoursToReady(0) at the lower end", Check.after(FIRST + "target 664 24;").hoursToReady(0), 0);
-        Check.same("hoursToReady(0) at the upper end", Check.after(FIRST + "target 640 24;").hoursToReady(0), 0);
+        Check.same("hoursToReady(0) at the lower end", Check.after(Edge.FIRST + "target 664 24;").hoursToReady(0), 0);
+        Check.same("hoursToReady(0) at the upper end", Check.after(Edge.FIRST + "target 640 24;").hoursToReady(0), 0);
         Check.same("hoursToReady(0), an hour from the upper end",
-                Check.after(FIRST + "target 639 24;").hoursToReady(0), 1);
-        Check.same("hoursToReady(0), too dry already", Check.after(FIRST + "target 665 24;").hoursToReady(0), -1);
+                Check.after(Edge.FIRST + "target 639 24;").hoursToReady(0), 1);
+        Check.same("hoursToReady(0), too dry already", Check.after(Edge.FIRST + "target 665 24;").hoursToReady(0), -1);
         Check.same("hoursToReady(0) without wind", Check.after("loft;trough 10;load 0 1 600;").hoursToReady(0), 0);
         Check.same("hoursToReady(0) without wind, too moist",
                 Check.after("loft;trough 10;load 0 1 601;").hoursToReady(0), -1);
@@ -130,10 +129,20 @@ public final class PredictionEdgesTest {
     private static void promise53TakesTheSmallestNumber() {
         // 616/616, 592/568, 568/520
         Check.same("hoursToReady(0), ready after 1 and 2 hours",
-                Check.after(FIRST + "target 598 30;").hoursToReady(0), 1);
+                Check.after(Edge.FIRST + "target 598 30;").hoursToReady(0), 1);
         Check.same("hoursToReady(0), ready after 2 and 3 hours",
-                Check.after(FIRST + "target 560 50;").hoursToReady(0), 2);
-        Check.same("hoursToReady(0), ready after 3 hours", Check.after(FIRST + "target 540 30;").hoursToReady(0), 3);
+                Check.after(Edge.FIRST + "target 560 50;").hoursToReady(0), 2);
+        Check.same("hoursToReady(0), ready after 3 hours",
+                Check.after(Edge.FIRST + "target 540 30;").hoursToReady(0), 3);
+    }
+
+    private static void promise53MonsoonsComeAndGo() {
+        // 2*20*60/100 = 24 and 12 an hour, in the monsoon 2*5*60/100 = 6 and 3
+        String script = "loft;trough 500;load 0 4 700;humidity 80;monsoon 1;target 650 10;hours 23;fan 0 2;";
+        // 676/688, 670/685, ..: the top is below 660 after 10 hours more, but then the bottom is at 616.
+        Check.same("hoursToReady(0), never", Check.after(script).hoursToReady(0), -1);
+        // 676/688, 670/685, .. 664/682: 3 hours, where 2 would be enough without the monsoon
+        Check.same("hoursToReady(0)", Check.after(script + "target 667 15;").hoursToReady(0), 3);
     }
 
     private static void promise53EndsAfter200Hours() {
@@ -169,15 +178,15 @@ public final class PredictionEdgesTest {
     }
 
     private static void promise55HoursAre1To100() {
-        Edge.takes(FIRST, "bestReversal", 1, 100, (loft, hours) -> loft.bestReversal(0, hours));
-        Edge.takes(FIRST, "bestReversal without leaf", 1, 100, (loft, hours) -> loft.bestReversal(2, hours));
+        Edge.takes(Edge.FIRST, "bestReversal", 1, 100, (loft, hours) -> loft.bestReversal(0, hours));
+        Edge.takes(Edge.FIRST, "bestReversal without leaf", 1, 100, (loft, hours) -> loft.bestReversal(2, hours));
     }
 
     private static void promise55OfSeveralTheSmallest() {
         String still = "loft;trough 10;load 0 5 900;";
         Check.same("bestReversal(0, 1) without wind", Check.after(still).bestReversal(0, 1), 0);
         Check.same("bestReversal(0, 100) without wind", Check.after(still).bestReversal(0, 100), 0);
-        Check.same("bestReversal(0, 100), all at 300 in the end", Check.after(FIRST).bestReversal(0, 100), 0);
+        Check.same("bestReversal(0, 100), all at 300 in the end", Check.after(Edge.FIRST).bestReversal(0, 100), 0);
         // From equal layers, reversed or not, one hour makes the same spread.
         Check.same("bestReversal(0, 1) of equal layers",
                 Check.after("loft;trough 500;load 0 4 900;fan 0 1;").bestReversal(0, 1), 0);
@@ -204,9 +213,21 @@ public final class PredictionEdgesTest {
         Check.same("bestReversal(0, 100), never", Check.after(far).bestReversal(0, 100), 100);
     }
 
+    private static void promise55MonsoonsComeAndGo() {
+        // 24 and 12 in the first of 3 hours, then 6 and 3 in the monsoon
+        String script = "loft;trough 500;load 0 4 900;humidity 80;monsoon 1;hours 23;fan 0 2;";
+        // Reversed at once the spread is 12 + 3 + 3, after one hour 12 - 3 - 3
+        Check.same("bestReversal(0, 3)", Check.after(script).bestReversal(0, 3), 1);
+        // 12 - 3 - 3 - 3 - 3 after an hour; each hour more before it makes 6 more
+        Check.same("bestReversal(0, 5)", Check.after(script).bestReversal(0, 5), 1);
+        // 3, 3 and 3 in the last hours of the monsoon and then 12 the other way
+        String end = "loft;trough 500;load 0 4 900;humidity 80;monsoon 1;hours 189;fan 0 2;";
+        Check.same("bestReversal(0, 4) at its end", Check.after(end).bestReversal(0, 4), 3);
+    }
+
     private static void promise56HoursAre0To200() {
-        Edge.takes(FIRST, "slowestSpeed", 0, 200, (loft, hours) -> loft.slowestSpeed(0, hours));
-        Edge.takes(FIRST, "slowestSpeed without leaf", 0, 200, (loft, hours) -> loft.slowestSpeed(2, hours));
+        Edge.takes(Edge.FIRST, "slowestSpeed", 0, 200, (loft, hours) -> loft.slowestSpeed(0, hours));
+        Edge.takes(Edge.FIRST, "slowestSpeed without leaf", 0, 200, (loft, hours) -> loft.slowestSpeed(2, hours));
     }
 
     private static void promise56TheSmallestSpeed() {

@@ -41,24 +41,10 @@ public final class ScriptEdgesTest {
         Check.end();
     }
 
-    private static void fails(String script, int kind, int offset) {
-        WitheringLoft loft = new WitheringLoft();
-        Check.same("the script \"" + script + "\"", Check.run(loft, script), -1);
-        Check.same("the error kind of \"" + script + "\"", loft.scriptErrorKind(), kind);
-        Check.same("the error offset of \"" + script + "\"", loft.scriptErrorOffset(), offset);
-    }
-
     /** The error is at the first byte of the text behind "|", which is no part of the script. */
     private static void failsAtMark(String script, int kind) {
         int offset = script.indexOf('|');
-        fails(script.substring(0, offset) + script.substring(offset + 1), kind, offset);
-    }
-
-    private static void succeeds(String script, int troughs) {
-        WitheringLoft loft = new WitheringLoft();
-        Check.same("the script \"" + script + "\"", Check.run(loft, script), troughs);
-        Check.same("the error kind of \"" + script + "\"", loft.scriptErrorKind(), 0);
-        Check.same("the error offset of \"" + script + "\"", loft.scriptErrorOffset(), -1);
+        Check.fails(script.substring(0, offset) + script.substring(offset + 1), kind, offset);
     }
 
     private static String blanks(int count) {
@@ -238,9 +224,9 @@ public final class ScriptEdgesTest {
     }
 
     private static void promise04AnswersTheNumberOfTroughs() {
-        succeeds("loft;", 0);
-        succeeds("loft;trough 10;", 1);
-        succeeds("loft;repeat 8(trough 10;);", 8);
+        Check.succeeds("loft;", 0);
+        Check.succeeds("loft;trough 10;", 1);
+        Check.succeeds("loft;repeat 8(trough 10;);", 8);
     }
 
     private static void promise24And25TellOfTheLatestScript() {
@@ -267,17 +253,17 @@ public final class ScriptEdgesTest {
     }
 
     private static void theTextHas600BytesAtMost() {
-        succeeds("loft;" + blanks(595), 0);
-        succeeds("loft;" + blanks(585) + "trough 10;", 1);
-        fails("loft;" + blanks(586) + "trough 10", 1, 600);
-        fails("loft;" + blanks(587) + "trough 9", 2, 599);
-        fails("loft;" + blanks(594) + "?", 1, 599);
-        fails(blanks(600), 1, 600);
-        fails(blanks(596) + "loft", 1, 600);
-        succeeds(blanks(595) + "loft;", 0);
-        fails("7".repeat(600), 1, 0);
-        fails("a".repeat(600), 1, 0);
-        fails("loft;heat " + "0".repeat(590), 1, 10);
+        Check.succeeds("loft;" + blanks(595), 0);
+        Check.succeeds("loft;" + blanks(585) + "trough 10;", 1);
+        Check.fails("loft;" + blanks(586) + "trough 10", 1, 600);
+        Check.fails("loft;" + blanks(587) + "trough 9", 2, 599);
+        Check.fails("loft;" + blanks(594) + "?", 1, 599);
+        Check.fails(blanks(600), 1, 600);
+        Check.fails(blanks(596) + "loft", 1, 600);
+        Check.succeeds(blanks(595) + "loft;", 0);
+        Check.fails("7".repeat(600), 1, 0);
+        Check.fails("a".repeat(600), 1, 0);
+        Check.fails("loft;heat " + "0".repeat(590), 1, 10);
     }
 
     /** 26 letters, 10 digits, two parentheses and the semicolon; the two blanks separate tokens. */
@@ -287,18 +273,18 @@ public final class ScriptEdgesTest {
             boolean blank = value == ' ' || value == '\n';
             String script = "loft;" + sign + "heat 1;";
             if (blank) {
-                succeeds(script, 0);
+                Check.succeeds(script, 0);
             } else {
-                fails(script, 1, 5);
+                Check.fails(script, 1, 5);
             }
             boolean semicolon = sign == ';';
             boolean digit = sign >= '0' && sign <= '9';
             if (semicolon || blank) {
-                succeeds("loft;heat 1" + sign + (semicolon ? "" : ";"), 0);
+                Check.succeeds("loft;heat 1" + sign + (semicolon ? "" : ";"), 0);
             } else if (digit) {
-                fails("loft;heat 1" + sign + ";", 2, 10);
+                Check.fails("loft;heat 1" + sign + ";", 2, 10);
             } else {
-                fails("loft;heat 1" + sign + ";", 1, 11);
+                Check.fails("loft;heat 1" + sign + ";", 1, 11);
             }
         }
     }
@@ -316,13 +302,13 @@ public final class ScriptEdgesTest {
         failsAtMark("loft;trough 10;probe 0 top |overr 1;", 1);
         failsAtMark("loft;trough 10;probe 0 top |ove 1;", 1);
         failsAtMark("loft;|repeats 1();", 1);
-        succeeds("loft;trough10;probe0bottom under1;", 1);
+        Check.succeeds("loft;trough10;probe0bottom under1;", 1);
     }
 
     private static void aNumberHas1To4Digits() {
-        succeeds("loft;trough 0010;", 1);
-        succeeds("loft;heat 0000;", 0);
-        succeeds("loft;heat 5;", 0);
+        Check.succeeds("loft;trough 0010;", 1);
+        Check.succeeds("loft;heat 0000;", 0);
+        Check.succeeds("loft;heat 5;", 0);
         failsAtMark("loft;heat |9999;", 2);
         failsAtMark("loft;heat |00000;", 1);
         failsAtMark("loft;heat |10000;", 1);
@@ -335,8 +321,8 @@ public final class ScriptEdgesTest {
     }
 
     private static void blanksSeparateTokens() {
-        succeeds(" \n loft\n;\ntrough\n10\n; \n", 1);
-        succeeds("loft;repeat 2\n(\n)\n;", 0);
+        Check.succeeds(" \n loft\n;\ntrough\n10\n; \n", 1);
+        Check.succeeds("loft;repeat 2\n(\n)\n;", 0);
         failsAtMark("loft;heat 1 |2;", 1);
         failsAtMark("loft;heat 1\n|2;", 1);
         failsAtMark("loft;|he at 1;", 1);
@@ -346,11 +332,11 @@ public final class ScriptEdgesTest {
     }
 
     private static void theTextMayEndBetweenStatements() {
-        succeeds("loft;", 0);
-        succeeds("loft; ", 0);
-        succeeds("loft;\n\n", 0);
-        succeeds("loft;trough 10;", 1);
-        succeeds("loft;repeat 1(trough 10;);", 1);
+        Check.succeeds("loft;", 0);
+        Check.succeeds("loft; ", 0);
+        Check.succeeds("loft;\n\n", 0);
+        Check.succeeds("loft;trough 10;", 1);
+        Check.succeeds("loft;repeat 1(trough 10;);", 1);
     }
 
     private static void theTextMayNotEndInsideAStatement() {
@@ -361,16 +347,16 @@ public final class ScriptEdgesTest {
         };
         StringBuilder text = new StringBuilder();
         int depth = 0;
-        fails("", 1, 0);
-        fails("\n", 1, 1);
+        Check.fails("", 1, 0);
+        Check.fails("\n", 1, 1);
         for (String token : tokens) {
             text.append(token);
             depth += token.equals("(") ? 1 : token.equals(")") ? -1 : 0;
             if (token.equals(";") && depth == 0) {
-                succeeds(text.toString(), text.indexOf("trough") < 0 ? 0 : 1);
+                Check.succeeds(text.toString(), text.indexOf("trough") < 0 ? 0 : 1);
             } else {
-                fails(text.toString(), 1, text.length());
-                fails(text + " \n", 1, text.length() + 2);
+                Check.fails(text.toString(), 1, text.length());
+                Check.fails(text + " \n", 1, text.length() + 2);
             }
             text.append(' ');
         }
@@ -418,7 +404,7 @@ public final class ScriptEdgesTest {
 
     private static void capacityIs10To500() {
         failsAtMark("loft;trough |9;", 2);
-        succeeds("loft;trough 10;trough 500;", 2);
+        Check.succeeds("loft;trough 10;trough 500;", 2);
         failsAtMark("loft;trough |501;", 2);
         failsAtMark("loft;trough |0;", 2);
     }
@@ -430,18 +416,18 @@ public final class ScriptEdgesTest {
             failsAtMark("loft;repeat 2(trough 10;);" + command + "2 1 700;", 2);
             failsAtMark("loft;repeat 8(trough 10;);" + command + "8 1 700;", 2);
         }
-        succeeds("loft;repeat 8(trough 10;);load 7 1 600;fan 7 1;reverse 7;turn 7;discharge 7;load 7 1 600;discard 7;"
-                + "probe 7 top over 1;", 8);
+        Check.succeeds("loft;repeat 8(trough 10;);load 7 1 600;fan 7 1;reverse 7;turn 7;discharge 7;load 7 1 600;"
+                + "discard 7;probe 7 top over 1;", 8);
         failsAtMark("loft;calibrate |0;", 2);
         failsAtMark("loft;trough 10;repeat 5(probe 0 top over 1;);calibrate |5;", 2);
         failsAtMark("loft;trough 10;repeat 6(probe 0 top over 1;);calibrate |6;", 2);
-        succeeds("loft;trough 10;repeat 6(probe 0 top over 1;);calibrate 0;calibrate 5;", 1);
+        Check.succeeds("loft;trough 10;repeat 6(probe 0 top over 1;);calibrate 0;calibrate 5;", 1);
     }
 
     private static void kilogramsAre1ToTheCapacity() {
         failsAtMark("loft;trough 20;trough 10;load 1 |0 700;", 2);
-        succeeds("loft;trough 20;trough 10;load 1 1 700;", 2);
-        succeeds("loft;trough 20;trough 10;load 1 10 700;load 0 20 700;", 2);
+        Check.succeeds("loft;trough 20;trough 10;load 1 1 700;", 2);
+        Check.succeeds("loft;trough 20;trough 10;load 1 10 700;load 0 20 700;", 2);
         failsAtMark("loft;trough 20;trough 10;load 1 |11 700;", 2);
         failsAtMark("loft;trough 20;trough 10;load 0 |21 700;", 2);
         failsAtMark("loft;trough 500;load 0 |501 700;", 2);
@@ -449,30 +435,30 @@ public final class ScriptEdgesTest {
 
     private static void moistureSpeedHeatAndHumidityAreInRange() {
         failsAtMark("loft;trough 10;load 0 1 |599;", 2);
-        succeeds("loft;trough 10;load 0 1 600;discard 0;load 0 1 900;", 1);
+        Check.succeeds("loft;trough 10;load 0 1 600;discard 0;load 0 1 900;", 1);
         failsAtMark("loft;trough 10;load 0 1 |901;", 2);
-        succeeds("loft;trough 10;fan 0 0;fan 0 5;", 1);
+        Check.succeeds("loft;trough 10;fan 0 0;fan 0 5;", 1);
         failsAtMark("loft;trough 10;fan 0 |6;", 2);
-        succeeds("loft;heat 0;heat 5;", 0);
+        Check.succeeds("loft;heat 0;heat 5;", 0);
         failsAtMark("loft;heat |6;", 2);
         failsAtMark("loft;humidity |19;", 2);
-        succeeds("loft;humidity 20;humidity 95;", 0);
+        Check.succeeds("loft;humidity 20;humidity 95;", 0);
         failsAtMark("loft;humidity |96;", 2);
     }
 
     private static void theDayIsFromThePresentOneTo83() {
-        succeeds("loft;monsoon 0;monsoon 83;", 0);
+        Check.succeeds("loft;monsoon 0;monsoon 83;", 0);
         failsAtMark("loft;monsoon |84;", 2);
-        succeeds("loft;hours 23;monsoon 0;", 0);
+        Check.succeeds("loft;hours 23;monsoon 0;", 0);
         failsAtMark("loft;hours 24;monsoon |0;", 2);
-        succeeds("loft;hours 24;monsoon 1;", 0);
+        Check.succeeds("loft;hours 24;monsoon 1;", 0);
         failsAtMark("loft;repeat 10(hours 200;);monsoon |82;", 2);
-        succeeds("loft;repeat 10(hours 200;);monsoon 83;", 0);
+        Check.succeeds("loft;repeat 10(hours 200;);monsoon 83;", 0);
     }
 
     private static void targetAndToleranceAreInRange() {
         failsAtMark("loft;target |499 5;", 2);
-        succeeds("loft;target 500 5;target 700 50;", 0);
+        Check.succeeds("loft;target 500 5;target 700 50;", 0);
         failsAtMark("loft;target |701 5;", 2);
         failsAtMark("loft;target 500 |4;", 2);
         failsAtMark("loft;target 500 |51;", 2);
@@ -486,13 +472,16 @@ public final class ScriptEdgesTest {
         Check.same("the error over 50", loft.calibrate(1), 50);
         Check.same("the error under 0", loft.calibrate(2), 0);
         Check.same("the error under 50", loft.calibrate(3), -50);
+        WitheringLoft calibrated = Check.after("loft;trough 10;probe 0 top over 50;probe 0 top under 50;calibrate 1;");
+        Check.same("the error over 50", calibrated.calibrate(0), 50);
+        Check.same("the error under 50, calibrated by the script", calibrated.calibrate(1), 0);
         failsAtMark("loft;trough 10;probe 0 top over |51;", 2);
         failsAtMark("loft;trough 10;probe 0 top under |51;", 2);
     }
 
     private static void hoursAre1To200() {
         failsAtMark("loft;hours |0;", 2);
-        succeeds("loft;hours 1;hours 200;", 0);
+        Check.succeeds("loft;hours 1;hours 200;", 0);
         failsAtMark("loft;hours |201;", 2);
     }
 
@@ -512,7 +501,7 @@ public final class ScriptEdgesTest {
         for (int i = 0; i < 48; i++) {
             many.append("repeat 20();");
         }
-        succeeds(many + ");", 0);
+        Check.succeeds(many + ");", 0);
     }
 
     private static void kind3IsToldAtTheSemicolon() {
@@ -524,12 +513,12 @@ public final class ScriptEdgesTest {
         failsAtMark("loft;trough 10;discharge 0 |;", 3);
         failsAtMark("loft;trough 10;load 0 1 601;discharge 0 |;", 3);
         failsAtMark("loft;trough 10;load 0 1 600;target 621 20;discharge 0 |;", 3);
-        succeeds("loft;trough 10;load 0 1 600;target 620 20;discharge 0 ;", 1);
-        succeeds("loft;trough 10;load 0 1 600;target 580 20;discharge 0 ;", 1);
+        Check.succeeds("loft;trough 10;load 0 1 600;target 620 20;discharge 0 ;", 1);
+        Check.succeeds("loft;trough 10;load 0 1 600;target 580 20;discharge 0 ;", 1);
         failsAtMark("loft;trough 10;load 0 1 600;target 579 20;discharge 0 |;", 3);
         failsAtMark("loft;trough 10;repeat 6(probe 0 top over 1;);probe 0 top over 1 |;", 3);
         failsAtMark("loft;repeat 9(hours 200;);hours 199;hours 2 |;", 3);
-        succeeds("loft;repeat 9(hours 200;);hours 199;hours 1;", 0);
+        Check.succeeds("loft;repeat 9(hours 200;);hours 199;hours 1;", 0);
         failsAtMark("loft;repeat 10(hours 200;);hours 1 |;", 3);
     }
 
@@ -537,22 +526,22 @@ public final class ScriptEdgesTest {
         failsAtMark("loft;repeat 1(repeat 1(|repeat 1();););", 4);
         failsAtMark("loft;repeat 1(repeat 1(heat 1;|repeat 0();););", 4);
         failsAtMark("loft;repeat 1(repeat 1(|repeat", 4);
-        succeeds("loft;repeat 1(repeat 1();repeat 1(););repeat 1(repeat 1(););", 0);
-        succeeds("loft;repeat 1();repeat 1();repeat 1();", 0);
+        Check.succeeds("loft;repeat 1(repeat 1();repeat 1(););repeat 1(repeat 1(););", 0);
+        Check.succeeds("loft;repeat 1();repeat 1();repeat 1();", 0);
         failsAtMark("loft;repeat 2(repeat 2();repeat 2(heat 1;);repeat 2(|repeat 2();););", 4);
     }
 
     private static void kind5IsThe201stCommand() {
         String full = "loft;repeat 20(repeat 10(heat 1;););";
-        succeeds(full, 0);
+        Check.succeeds(full, 0);
         failsAtMark(full + "|heat 1;", 5);
         failsAtMark(full + "|heat", 5);
         failsAtMark(full + "|heat 9;", 5);
         failsAtMark(full + "|turn 0;", 5);
-        succeeds(full + "repeat 20(repeat 20(););", 0);
+        Check.succeeds(full + "repeat 20(repeat 20(););", 0);
         failsAtMark(full + "repeat 2(|hours 1;);", 5);
         failsAtMark(full + "repeat |0(hours 1;);", 2);
-        succeeds("loft;repeat 19(repeat 10(heat 1;););repeat 9(heat 2;);heat 3;", 0);
+        Check.succeeds("loft;repeat 19(repeat 10(heat 1;););repeat 9(heat 2;);heat 3;", 0);
         failsAtMark("loft;repeat 19(repeat 10(heat 1;););repeat 9(heat 2;);heat 3;|heat 4;", 5);
         failsAtMark("loft;repeat 20(repeat 10(|heat 1;);repeat 1(heat 1;););", 5);
         failsAtMark("loft;repeat 20(repeat 10(|heat 1;);heat 1;);", 5);

@@ -16,21 +16,6 @@ public final class ScriptTest {
         Check.end();
     }
 
-    private static void fails(String script, int kind, int offset) {
-        WitheringLoft loft = new WitheringLoft();
-        Check.same("the script \"" + script + "\"", Check.run(loft, script), -1);
-        Check.same("the error kind of \"" + script + "\"", loft.scriptErrorKind(), kind);
-        Check.same("the error offset of \"" + script + "\"", loft.scriptErrorOffset(), offset);
-    }
-
-    private static void succeeds(String script, int troughs) {
-        WitheringLoft loft = new WitheringLoft();
-        int answer = Check.run(loft, script);
-        Check.same("the script \"" + script + "\"", answer, troughs);
-        Check.same("the error kind of \"" + script + "\"", loft.scriptErrorKind(), 0);
-        Check.same("the error offset of \"" + script + "\"", loft.scriptErrorOffset(), -1);
-    }
-
     private static void replacesEverything() {
         WitheringLoft loft = new WitheringLoft();
         loft.setHeat(5);
@@ -149,179 +134,179 @@ public final class ScriptTest {
     }
 
     private static void separatesTokens() {
-        succeeds("loft;trough10;load0 5 600;fan 0 05;", 1);
-        succeeds("\n loft \n;\n  trough\n 0010 ; \n", 1);
-        succeeds("loft;trough 10;probe 0top over5;probe 0bottom under0;", 1);
-        fails("loft;trough 10;probe 0 bottomunder 0;", 1, 23);
-        fails("loft;tr ough 10;", 1, 5);
-        fails("loft;heatz 1;", 1, 5);
-        fails("loft;heata 1;", 1, 5);
-        fails("loft;heat z;", 1, 10);
-        fails("loft;heat{ 1;", 1, 9);
-        fails("loft;heat` 1;", 1, 9);
-        fails("lo ft;", 1, 0);
-        fails("loft;troughs 10;", 1, 5);
-        fails("loft;trough 1 0;", 2, 12);
-        fails("loft;trough 10\t;", 1, 14);
-        fails("loft;\r", 1, 5);
-        fails("loft;trough 10;fan 00;", 1, 21);
-        fails("Loft;", 1, 0);
-        fails("loft;trough 10;Fan 0 0;", 1, 15);
-        fails("loft;trough -10;", 1, 12);
-        fails("loft;trough 00010;", 1, 12);
-        fails("loft;trough 12345678901234567890;", 1, 12);
+        Check.succeeds("loft;trough10;load0 5 600;fan 0 05;", 1);
+        Check.succeeds("\n loft \n;\n  trough\n 0010 ; \n", 1);
+        Check.succeeds("loft;trough 10;probe 0top over5;probe 0bottom under0;", 1);
+        Check.fails("loft;trough 10;probe 0 bottomunder 0;", 1, 23);
+        Check.fails("loft;tr ough 10;", 1, 5);
+        Check.fails("loft;heatz 1;", 1, 5);
+        Check.fails("loft;heata 1;", 1, 5);
+        Check.fails("loft;heat z;", 1, 10);
+        Check.fails("loft;heat{ 1;", 1, 9);
+        Check.fails("loft;heat` 1;", 1, 9);
+        Check.fails("lo ft;", 1, 0);
+        Check.fails("loft;troughs 10;", 1, 5);
+        Check.fails("loft;trough 1 0;", 2, 12);
+        Check.fails("loft;trough 10\t;", 1, 14);
+        Check.fails("loft;\r", 1, 5);
+        Check.fails("loft;trough 10;fan 00;", 1, 21);
+        Check.fails("Loft;", 1, 0);
+        Check.fails("loft;trough 10;Fan 0 0;", 1, 15);
+        Check.fails("loft;trough -10;", 1, 12);
+        Check.fails("loft;trough 00010;", 1, 12);
+        Check.fails("loft;trough 12345678901234567890;", 1, 12);
     }
 
     private static void repeats() {
         WitheringLoft loft = Check.after("loft;repeat 3(trough 10;);repeat 2 ( repeat 2 ( hours 5 ; ) ; hours 1; ) ;");
         Check.same("troughCount()", loft.troughCount(), 3);
         Check.same("hour()", loft.hour(), 22);
-        succeeds("loft;repeat 1();", 0);
-        succeeds("loft;repeat 20(repeat 20(););", 0);
-        succeeds("loft;repeat 2(repeat 2(););repeat 2(repeat 2(););", 0);
-        succeeds("loft;repeat 2(repeat 2();repeat 2();trough 10;);", 2);
-        fails("loft;repeat 0();", 2, 12);
-        fails("loft;repeat 21();", 2, 12);
-        fails("loft;repeat();", 1, 11);
-        fails("loft;repeat 2;", 1, 13);
-        fails("loft;repeat 2(;);", 1, 14);
-        fails("loft;repeat 2()", 1, 15);
-        fails("loft;repeat 2())", 1, 15);
-        fails("loft;repeat 2(heat 1;", 1, 21);
-        fails("loft;repeat 2(heat 1);", 1, 20);
-        fails("loft;repeat 2(heat 1;;);", 1, 21);
-        fails("loft;);", 1, 5);
-        fails("loft;(heat 1;);", 1, 5);
+        Check.succeeds("loft;repeat 1();", 0);
+        Check.succeeds("loft;repeat 20(repeat 20(););", 0);
+        Check.succeeds("loft;repeat 2(repeat 2(););repeat 2(repeat 2(););", 0);
+        Check.succeeds("loft;repeat 2(repeat 2();repeat 2();trough 10;);", 2);
+        Check.fails("loft;repeat 0();", 2, 12);
+        Check.fails("loft;repeat 21();", 2, 12);
+        Check.fails("loft;repeat();", 1, 11);
+        Check.fails("loft;repeat 2;", 1, 13);
+        Check.fails("loft;repeat 2(;);", 1, 14);
+        Check.fails("loft;repeat 2()", 1, 15);
+        Check.fails("loft;repeat 2())", 1, 15);
+        Check.fails("loft;repeat 2(heat 1;", 1, 21);
+        Check.fails("loft;repeat 2(heat 1);", 1, 20);
+        Check.fails("loft;repeat 2(heat 1;;);", 1, 21);
+        Check.fails("loft;);", 1, 5);
+        Check.fails("loft;(heat 1;);", 1, 5);
     }
 
     private static void tellsGrammarErrors() {
-        fails("", 1, 0);
-        fails("  \n", 1, 3);
-        fails("loft", 1, 4);
-        fails("loft ", 1, 5);
-        fails("loft heat 1;", 1, 5);
-        fails("trough 10;", 1, 0);
-        fails(";", 1, 0);
-        fails("loft;;", 1, 5);
-        fails("loft;loft;", 1, 5);
-        fails("loft;heat;", 1, 9);
-        fails("loft;heat", 1, 9);
-        fails("loft;heat 1", 1, 11);
-        fails("loft;heat 1  ", 1, 13);
-        fails("loft;heat 1 2;", 1, 12);
-        fails("loft;heat one;", 1, 10);
-        fails("loft;heat (1);", 1, 10);
-        fails("loft;10;", 1, 5);
-        fails("loft;undo;", 1, 5);
-        fails("loft;top;", 1, 5);
-        fails("loft;heat 1)", 1, 11);
-        fails("loft;trough 10;probe 0 0 over 5;", 1, 23);
-        fails("loft;trough 10;probe 0 over 5;", 1, 23);
-        fails("loft;trough 10;probe 0 top 5;", 1, 27);
-        fails("loft;trough 10;probe 0 top top 5;", 1, 27);
-        fails("loft;trough 10;probe 0 top over;", 1, 31);
-        fails("loft;trough 10;moveprobe 0 0 1;", 1, 15);
-        fails("loft;trough 10;load 0 5;", 1, 23);
-        fails("loft;target 600;", 1, 15);
+        Check.fails("", 1, 0);
+        Check.fails("  \n", 1, 3);
+        Check.fails("loft", 1, 4);
+        Check.fails("loft ", 1, 5);
+        Check.fails("loft heat 1;", 1, 5);
+        Check.fails("trough 10;", 1, 0);
+        Check.fails(";", 1, 0);
+        Check.fails("loft;;", 1, 5);
+        Check.fails("loft;loft;", 1, 5);
+        Check.fails("loft;heat;", 1, 9);
+        Check.fails("loft;heat", 1, 9);
+        Check.fails("loft;heat 1", 1, 11);
+        Check.fails("loft;heat 1  ", 1, 13);
+        Check.fails("loft;heat 1 2;", 1, 12);
+        Check.fails("loft;heat one;", 1, 10);
+        Check.fails("loft;heat (1);", 1, 10);
+        Check.fails("loft;10;", 1, 5);
+        Check.fails("loft;undo;", 1, 5);
+        Check.fails("loft;top;", 1, 5);
+        Check.fails("loft;heat 1)", 1, 11);
+        Check.fails("loft;trough 10;probe 0 0 over 5;", 1, 23);
+        Check.fails("loft;trough 10;probe 0 over 5;", 1, 23);
+        Check.fails("loft;trough 10;probe 0 top 5;", 1, 27);
+        Check.fails("loft;trough 10;probe 0 top top 5;", 1, 27);
+        Check.fails("loft;trough 10;probe 0 top over;", 1, 31);
+        Check.fails("loft;trough 10;moveprobe 0 0 1;", 1, 15);
+        Check.fails("loft;trough 10;load 0 5;", 1, 23);
+        Check.fails("loft;target 600;", 1, 15);
     }
 
     private static void tellsNumberErrors() {
-        fails("loft;trough 9;", 2, 12);
-        fails("loft;trough 501;", 2, 12);
-        succeeds("loft;trough 500;", 1);
-        fails("loft;load 0 5 700;", 2, 10);
-        fails("loft;trough 10;load 1 5 700;", 2, 20);
-        fails("loft;trough 10;load 0 0 700;", 2, 22);
-        fails("loft;trough 10;load 0 11 700;", 2, 22);
-        fails("loft;trough 10;load 0 10 599;", 2, 25);
-        fails("loft;trough 10;load 0 10 901;", 2, 25);
-        succeeds("loft;trough 10;load 0 10 600;", 1);
-        succeeds("loft;trough 10;load 0 1 900;", 1);
-        fails("loft;trough 10;fan 1 1;", 2, 19);
-        fails("loft;trough 10;fan 0 6;", 2, 21);
-        fails("loft;trough 10;reverse 1;", 2, 23);
-        fails("loft;heat 6;", 2, 10);
-        fails("loft;humidity 19;", 2, 14);
-        fails("loft;humidity 96;", 2, 14);
-        succeeds("loft;humidity 20;humidity 95;heat 5;heat 0;", 0);
-        fails("loft;monsoon 84;", 2, 13);
-        succeeds("loft;monsoon 83;monsoon 0;", 0);
-        fails("loft;hours 24;monsoon 0;", 2, 22);
-        succeeds("loft;hours 24;monsoon 1;", 0);
-        succeeds("loft;hours 23;monsoon 0;", 0);
-        fails("loft;target 499 5;", 2, 12);
-        fails("loft;target 701 5;", 2, 12);
-        fails("loft;target 500 4;", 2, 16);
-        fails("loft;target 500 51;", 2, 16);
-        succeeds("loft;target 500 5;target 700 50;", 0);
-        fails("loft;turn 0;", 2, 10);
-        fails("loft;discharge 0;", 2, 15);
-        fails("loft;discard 0;", 2, 13);
-        fails("loft;probe 0 top over 1;", 2, 11);
-        fails("loft;trough 10;probe 0 top over 51;", 2, 32);
-        fails("loft;trough 10;probe 0 top under 51;", 2, 33);
-        succeeds("loft;trough 10;probe 0 top over 50;probe 0 top under 50;", 1);
-        fails("loft;calibrate 0;", 2, 15);
-        fails("loft;trough 10;probe 0 top over 1;calibrate 1;", 2, 44);
-        fails("loft;hours 0;", 2, 11);
-        fails("loft;hours 201;", 2, 11);
-        succeeds("loft;hours 200;", 0);
-        fails("loft;hours 9999;", 2, 11);
+        Check.fails("loft;trough 9;", 2, 12);
+        Check.fails("loft;trough 501;", 2, 12);
+        Check.succeeds("loft;trough 500;", 1);
+        Check.fails("loft;load 0 5 700;", 2, 10);
+        Check.fails("loft;trough 10;load 1 5 700;", 2, 20);
+        Check.fails("loft;trough 10;load 0 0 700;", 2, 22);
+        Check.fails("loft;trough 10;load 0 11 700;", 2, 22);
+        Check.fails("loft;trough 10;load 0 10 599;", 2, 25);
+        Check.fails("loft;trough 10;load 0 10 901;", 2, 25);
+        Check.succeeds("loft;trough 10;load 0 10 600;", 1);
+        Check.succeeds("loft;trough 10;load 0 1 900;", 1);
+        Check.fails("loft;trough 10;fan 1 1;", 2, 19);
+        Check.fails("loft;trough 10;fan 0 6;", 2, 21);
+        Check.fails("loft;trough 10;reverse 1;", 2, 23);
+        Check.fails("loft;heat 6;", 2, 10);
+        Check.fails("loft;humidity 19;", 2, 14);
+        Check.fails("loft;humidity 96;", 2, 14);
+        Check.succeeds("loft;humidity 20;humidity 95;heat 5;heat 0;", 0);
+        Check.fails("loft;monsoon 84;", 2, 13);
+        Check.succeeds("loft;monsoon 83;monsoon 0;", 0);
+        Check.fails("loft;hours 24;monsoon 0;", 2, 22);
+        Check.succeeds("loft;hours 24;monsoon 1;", 0);
+        Check.succeeds("loft;hours 23;monsoon 0;", 0);
+        Check.fails("loft;target 499 5;", 2, 12);
+        Check.fails("loft;target 701 5;", 2, 12);
+        Check.fails("loft;target 500 4;", 2, 16);
+        Check.fails("loft;target 500 51;", 2, 16);
+        Check.succeeds("loft;target 500 5;target 700 50;", 0);
+        Check.fails("loft;turn 0;", 2, 10);
+        Check.fails("loft;discharge 0;", 2, 15);
+        Check.fails("loft;discard 0;", 2, 13);
+        Check.fails("loft;probe 0 top over 1;", 2, 11);
+        Check.fails("loft;trough 10;probe 0 top over 51;", 2, 32);
+        Check.fails("loft;trough 10;probe 0 top under 51;", 2, 33);
+        Check.succeeds("loft;trough 10;probe 0 top over 50;probe 0 top under 50;", 1);
+        Check.fails("loft;calibrate 0;", 2, 15);
+        Check.fails("loft;trough 10;probe 0 top over 1;calibrate 1;", 2, 44);
+        Check.fails("loft;hours 0;", 2, 11);
+        Check.fails("loft;hours 201;", 2, 11);
+        Check.succeeds("loft;hours 200;", 0);
+        Check.fails("loft;hours 9999;", 2, 11);
     }
 
     private static void tellsRefusedCommands() {
-        fails("loft;repeat 9(trough 10;);", 3, 23);
-        succeeds("loft;repeat 8(trough 10;);", 8);
-        fails("loft;trough 10;load 0 5 700;load 0 5 700;", 3, 40);
-        succeeds("loft;trough 10;load 0 5 700;discard 0;load 0 5 700;", 1);
-        fails("loft;monsoon 1;monsoon 1;monsoon 2;monsoon 3;", 3, 44);
-        fails("loft;trough 10;turn 0 ;", 3, 22);
-        fails("loft;trough 10;discard 0;", 3, 24);
-        fails("loft;trough 10;discharge 0;", 3, 26);
-        fails("loft;trough 10;load 0 5 601;discharge 0;", 3, 39);
-        fails("loft;trough 10;load 0 5 600;target 700 50;discharge 0;", 3, 53);
-        succeeds("loft;trough 10;load 0 5 600;discharge 0;", 1);
-        fails("loft;trough 10;repeat 7(probe 0 top over 1;);", 3, 42);
-        succeeds("loft;trough 10;repeat 6(probe 0 top over 1;);", 1);
-        fails("loft;repeat 11(hours 200;);", 3, 24);
-        succeeds("loft;repeat 10(hours 200;);", 0);
-        fails("loft;repeat 10(hours 200;);hours 1;", 3, 34);
+        Check.fails("loft;repeat 9(trough 10;);", 3, 23);
+        Check.succeeds("loft;repeat 8(trough 10;);", 8);
+        Check.fails("loft;trough 10;load 0 5 700;load 0 5 700;", 3, 40);
+        Check.succeeds("loft;trough 10;load 0 5 700;discard 0;load 0 5 700;", 1);
+        Check.fails("loft;monsoon 1;monsoon 1;monsoon 2;monsoon 3;", 3, 44);
+        Check.fails("loft;trough 10;turn 0 ;", 3, 22);
+        Check.fails("loft;trough 10;discard 0;", 3, 24);
+        Check.fails("loft;trough 10;discharge 0;", 3, 26);
+        Check.fails("loft;trough 10;load 0 5 601;discharge 0;", 3, 39);
+        Check.fails("loft;trough 10;load 0 5 600;target 700 50;discharge 0;", 3, 53);
+        Check.succeeds("loft;trough 10;load 0 5 600;discharge 0;", 1);
+        Check.fails("loft;trough 10;repeat 7(probe 0 top over 1;);", 3, 42);
+        Check.succeeds("loft;trough 10;repeat 6(probe 0 top over 1;);", 1);
+        Check.fails("loft;repeat 11(hours 200;);", 3, 24);
+        Check.succeeds("loft;repeat 10(hours 200;);", 0);
+        Check.fails("loft;repeat 10(hours 200;);hours 1;", 3, 34);
     }
 
     private static void tellsDeepRepeats() {
-        fails("loft;repeat 2(repeat 2(repeat", 4, 23);
-        fails("loft;repeat 1(heat 1;repeat 1(heat 2;repeat 1();););", 4, 37);
+        Check.fails("loft;repeat 2(repeat 2(repeat", 4, 23);
+        Check.fails("loft;repeat 1(heat 1;repeat 1(heat 2;repeat 1();););", 4, 37);
         // The inner repeats are closed when the next one begins.
-        succeeds("loft;repeat 2(repeat 2(heat 1;);repeat 2(heat 2;););repeat 1(repeat 1(););", 0);
-        fails("loft;repeat 2(repeat 2(repea", 1, 23);
+        Check.succeeds("loft;repeat 2(repeat 2(heat 1;);repeat 2(heat 2;););repeat 1(repeat 1(););", 0);
+        Check.fails("loft;repeat 2(repeat 2(repea", 1, 23);
         // Where no command can stand, the word is no token that is allowed.
-        fails("loft;repeat 2(repeat 2(heat repeat", 1, 28);
-        fails("loft;repeat 2(repeat 2(heat 1 repeat", 1, 30);
+        Check.fails("loft;repeat 2(repeat 2(heat repeat", 1, 28);
+        Check.fails("loft;repeat 2(repeat 2(heat 1 repeat", 1, 30);
     }
 
     private static void tellsTooManyCommands() {
-        succeeds("loft;repeat 20(repeat 10(heat 1;););", 0);
-        fails("loft;repeat 20(repeat 10(heat 1;););heat 1;", 5, 36);
-        succeeds("loft;repeat 20(repeat 10(heat 1;););repeat 2();", 0);
-        fails("loft;repeat 20(repeat 10(heat 1;););repeat 2(heat 9;);", 5, 45);
-        fails("loft;repeat 20(repeat 11(heat 1;););", 5, 25);
-        fails("loft;repeat 20(heat 1;repeat 10(heat 1;););", 5, 32);
-        fails("loft;repeat 20(repeat 10(heat 1;););hotter 1;", 1, 36);
-        fails("loft;repeat 20(repeat 10(heat 1;););7", 1, 36);
+        Check.succeeds("loft;repeat 20(repeat 10(heat 1;););", 0);
+        Check.fails("loft;repeat 20(repeat 10(heat 1;););heat 1;", 5, 36);
+        Check.succeeds("loft;repeat 20(repeat 10(heat 1;););repeat 2();", 0);
+        Check.fails("loft;repeat 20(repeat 10(heat 1;););repeat 2(heat 9;);", 5, 45);
+        Check.fails("loft;repeat 20(repeat 11(heat 1;););", 5, 25);
+        Check.fails("loft;repeat 20(heat 1;repeat 10(heat 1;););", 5, 32);
+        Check.fails("loft;repeat 20(repeat 10(heat 1;););hotter 1;", 1, 36);
+        Check.fails("loft;repeat 20(repeat 10(heat 1;););7", 1, 36);
     }
 
     private static void tellsTheFirstErrorAndTheSmallestKind() {
         // The first token that is wrong counts, whatever comes behind it.
-        fails("loft;trough 9 junk", 2, 12);
-        fails("loft;trough 10;turn 1 junk", 2, 20);
-        fails("loft;trough 10;turn 0 0;", 1, 22);
-        fails("loft;heat 6;?", 2, 10);
+        Check.fails("loft;trough 9 junk", 2, 12);
+        Check.fails("loft;trough 10;turn 1 junk", 2, 20);
+        Check.fails("loft;trough 10;turn 0 0;", 1, 22);
+        Check.fails("loft;heat 6;?", 2, 10);
         // A run of more than 4 digits is out of range too, but the smaller kind is told.
-        fails("loft;heat 66666;", 1, 10);
+        Check.fails("loft;heat 66666;", 1, 10);
         // The second repetition finds the error.
-        fails("loft;trough 10;repeat 2(load 0 5 700;);", 3, 36);
-        fails("loft;repeat 2(monsoon 0;hours 24;);", 2, 22);
+        Check.fails("loft;trough 10;repeat 2(load 0 5 700;);", 3, 36);
+        Check.fails("loft;repeat 2(monsoon 0;hours 24;);", 2, 22);
         // The first repetition reaches the end of its body before the text ends wrongly.
-        fails("loft;repeat 3(hours 200;);repeat 8(hours 200;);heat", 3, 44);
+        Check.fails("loft;repeat 3(hours 200;);repeat 8(hours 200;);heat", 3, 44);
     }
 }

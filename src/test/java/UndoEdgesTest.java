@@ -1,8 +1,5 @@
 /** "Undo" and promises 20 to 23: the boundary cases of undo and of the snapshot. */
 public final class UndoEdgesTest {
-    private static final String FIRST = "loft;trough 100;trough 200;trough 50;load 0 50 760;load 1 200 780;fan 0 3;"
-            + "fan 1 4;monsoon 1;probe 0 top over 10;probe 1 bottom under 5;hours 2;reverse 0;hours 1;";
-
     public static void main(String[] args) {
         eachChangeIsUndone();
         aChangeThatChangesNothingIsUndoneToo();
@@ -38,25 +35,25 @@ public final class UndoEdgesTest {
     }
 
     private static void eachChangeIsUndone() {
-        undoes(FIRST, "runScript", loft -> Check.run(loft, "loft;"));
-        undoes(FIRST, "addTrough", loft -> loft.addTrough(10));
-        undoes(FIRST, "load", loft -> loft.load(2, 1, 600));
-        undoes(FIRST, "setFan", loft -> loft.setFan(2, 1));
-        undoes(FIRST, "reverse", loft -> loft.reverse(2) ? 1 : 0);
-        undoes(FIRST, "setHeat", loft -> loft.setHeat(1));
-        undoes(FIRST, "setHumidity", loft -> loft.setHumidity(61));
-        undoes(FIRST, "announceMonsoon", loft -> loft.announceMonsoon(83));
-        undoes(FIRST, "setTarget to another target", loft -> loft.setTarget(652, 20));
-        undoes(FIRST + "target 652 5;", "setTarget to another tolerance", loft -> loft.setTarget(652, 20));
-        undoes(FIRST, "turnLeaf", loft -> loft.turnLeaf(0));
-        undoes(FIRST + "target 652 20;", "discharge", loft -> loft.discharge(0));
-        undoes(FIRST, "discard", loft -> loft.discard(1));
-        undoes(FIRST, "addProbe", loft -> loft.addProbe(2, 0, 0));
-        undoes(FIRST, "moveProbe to another trough", loft -> loft.moveProbe(1, 2, 0));
-        undoes(FIRST, "moveProbe to another layer", loft -> loft.moveProbe(1, 1, 1));
-        undoes(FIRST, "calibrate", loft -> loft.calibrate(0));
-        undoes(FIRST, "passHours", loft -> loft.passHours(1));
-        undoes(FIRST, "passHours over a day", loft -> loft.passHours(200));
+        undoes(Edge.FIRST, "runScript", loft -> Check.run(loft, "loft;"));
+        undoes(Edge.FIRST, "addTrough", loft -> loft.addTrough(10));
+        undoes(Edge.FIRST, "load", loft -> loft.load(2, 1, 600));
+        undoes(Edge.FIRST, "setFan", loft -> loft.setFan(2, 1));
+        undoes(Edge.FIRST, "reverse", loft -> loft.reverse(2) ? 1 : 0);
+        undoes(Edge.FIRST, "setHeat", loft -> loft.setHeat(1));
+        undoes(Edge.FIRST, "setHumidity", loft -> loft.setHumidity(61));
+        undoes(Edge.FIRST, "announceMonsoon", loft -> loft.announceMonsoon(83));
+        undoes(Edge.FIRST, "setTarget to another target", loft -> loft.setTarget(652, 20));
+        undoes(Edge.FIRST + "target 652 5;", "setTarget to another tolerance", loft -> loft.setTarget(652, 20));
+        undoes(Edge.FIRST, "turnLeaf", loft -> loft.turnLeaf(0));
+        undoes(Edge.FIRST + "target 652 20;", "discharge", loft -> loft.discharge(0));
+        undoes(Edge.FIRST, "discard", loft -> loft.discard(1));
+        undoes(Edge.FIRST, "addProbe", loft -> loft.addProbe(2, 0, 0));
+        undoes(Edge.FIRST, "moveProbe to another trough", loft -> loft.moveProbe(1, 2, 0));
+        undoes(Edge.FIRST, "moveProbe to another layer", loft -> loft.moveProbe(1, 1, 1));
+        undoes(Edge.FIRST, "calibrate", loft -> loft.calibrate(0));
+        undoes(Edge.FIRST, "passHours", loft -> loft.passHours(1));
+        undoes(Edge.FIRST, "passHours over a day", loft -> loft.passHours(200));
     }
 
     private static void aChangeThatChangesNothingIsUndoneToo() {
