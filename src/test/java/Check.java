@@ -70,7 +70,7 @@ final class Check {
         same("the length of the typed text", loft.truncateInput(before + text.length()), text.length());
     }
 
-    private static int word(String text, int start) {
+    static int word(String text, int start) {
         int word = 0;
         for (int i = start; i < start + 4; i++) {
             word = word << 8 | (i < text.length() ? text.charAt(i) & 0xFF : 0);

@@ -1,13 +1,23 @@
+import java.io.IOException;
+import java.lang.reflect.Modifier;
+import java.nio.file.Files;
+import java.nio.file.Path;
+import java.util.Arrays;
+import java.util.List;
+import java.util.stream.Collectors;
+import java.util.stream.Stream;
+
 /** Promise 1, and the face of the class. */
 public final class NewObjectTest {
     private static final String FIRST_SCRIPT = "loft; trough 100; trough 200; trough 50; load 0 50 760; "
             + "load 1 200 780; fan 0 3; fan 1 4; monsoon 1; probe 0 top over 10; probe 1 bottom under 5; "
             + "hours 2; reverse 0; hours 1;";
 
-    public static void main(String[] args) {
+    public static void main(String[] args) throws IOException {
         isAsByItsScript();
         isEmptyOtherwise();
         hasOnlyTheFace();
+        hasTheFaceOfTheDocument();
         Check.end();
     }
 
@@ -35,20 +45,20 @@ public final class NewObjectTest {
         Class<WitheringLoft> face = WitheringLoft.class;
         int methods = 0;
         for (java.lang.reflect.Method method : face.getDeclaredMethods()) {
-            if (java.lang.reflect.Modifier.isPublic(method.getModifiers())) {
+            if (Modifier.isPublic(method.getModifiers())) {
                 methods++;
             } else if (!method.isSynthetic()) {
-                boolean hidden = java.lang.reflect.Modifier.isPrivate(method.getModifiers());
+                boolean hidden = Modifier.isPrivate(method.getModifiers());
                 Check.same("whether " + method.getName() + " is private", hidden, true);
             }
         }
         Check.same("the number of public methods", methods, 64);
         int constants = 0;
         for (java.lang.reflect.Field field : face.getDeclaredFields()) {
-            if (java.lang.reflect.Modifier.isPublic(field.getModifiers())) {
+            if (Modifier.isPublic(field.getModifiers())) {
                 constants++;
             } else {
-                boolean hidden = java.lang.reflect.Modifier.isPrivate(field.getModifiers());
+                boolean hidden = Modifier.isPrivate(field.getModifiers());
                 Check.same("whether " + field.getName() + " is private", hidden, true);
             }
         }
@@ -60,5 +70,28 @@ public final class NewObjectTest {
         Check.same("NO_LEAF", WitheringLoft.NO_LEAF, 1);
         Check.same("TOO_DRY", WitheringLoft.TOO_DRY, 2);
         Check.same("TOO_MOIST", WitheringLoft.TOO_MOIST, 3);
+    }
+
+    /** Names, parameters, answers and exceptions, as "The public face" lists them. */
+    private static void hasTheFaceOfTheDocument() throws IOException {
+        List<String> document = Files.readAllLines(Path.of("../shared/DOC.md"));
+        int start = document.indexOf("public final class WitheringLoft {");
+        int end = start + document.subList(start, document.size()).indexOf("}");
+        List<String> due = document.subList(start, end).stream().map(String::strip)
+                .filter(line -> line.endsWith(";") && line.contains("(") && !line.contains("WitheringLoft("))
+                .map(line -> line.replaceAll("int [a-z]+([,)])", "int$1")).sorted().collect(Collectors.toList());
+        List<String> got = Arrays.stream(WitheringLoft.class.getDeclaredMethods())
+                .filter(method -> Modifier.isPublic(method.getModifiers()))
+                .map(method -> Modifier.toString(method.getModifiers()) + " " + method.getReturnType() + " "
+                        + method.getName() + "(" + names(method.getParameterTypes()) + ")"
+                        + (method.getExceptionTypes().length == 0 ? "" : " throws ")
+                        + names(method.getExceptionTypes()) + ";")
+                .sorted().collect(Collectors.toList());
+        Check.same("the number of the document's methods", due.size(), 64);
+        Check.same("the face", String.join("\n", got), String.join("\n", due));
+    }
+
+    private static String names(Class<?>[] kinds) {
+        return Stream.of(kinds).map(Class::getSimpleName).collect(Collectors.joining(", "));
     }
 }

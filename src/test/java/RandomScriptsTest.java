@@ -40,7 +40,7 @@ public final class RandomScriptsTest {
         return kind;
     }
 
-    private static String randomScript(Random random) {
+    static String randomScript(Random random) {
         StringBuilder text = new StringBuilder("loft;");
         text.append("trough ").append(number(random, 9, 200)).append(';');
         text.append("load 0 ").append(number(random, 1, 9)).append(' ').append(number(random, 600, 650)).append(';');
@@ -115,7 +115,7 @@ public final class RandomScriptsTest {
                 : low + random.nextInt(high - low + 1);
     }
 
-    private static String spoiled(Random random, String script) {
+    static String spoiled(Random random, String script) {
         StringBuilder text = new StringBuilder(script);
         int place = random.nextInt(text.length());
         switch (random.nextInt(4)) {
